@@ -60,15 +60,12 @@ public final class SecondWish {
         if (!isRow(r)) {
             return BAD;
         }
-        Line line = rows[r];
-        if (line.isMissing()) {
-            return find(NOTHING);
+        int refused = refusePlace(rows[r], i);
+        if (refused != 0) {
+            return refused;
         }
-        if (!line.hasPlace(i)) {
-            return find(BEYOND);
-        }
-        told = line.places[i];
-        line.places[i] = v;
+        told = rows[r].places[i];
+        rows[r].places[i] = v;
         return 1;
     }
 
@@ -76,14 +73,11 @@ public final class SecondWish {
         if (!isRow(r)) {
             return BAD;
         }
-        Line line = rows[r];
-        if (line.isMissing()) {
-            return find(NOTHING);
+        int refused = refusePlace(rows[r], i);
+        if (refused != 0) {
+            return refused;
         }
-        if (!line.hasPlace(i)) {
-            return find(BEYOND);
-        }
-        told = line.places[i];
+        told = rows[r].places[i];
         return 1;
     }
 
@@ -138,15 +132,12 @@ public final class SecondWish {
         if (!isText(t)) {
             return BAD;
         }
-        Line line = texts[t];
-        if (line.isMissing()) {
-            return find(NOTHING);
+        int refused = refusePlace(texts[t], i);
+        if (refused != 0) {
+            return refused;
         }
-        if (!line.hasPlace(i)) {
-            return find(BEYOND);
-        }
-        int was = line.places[i];
-        line.places[i] = (byte) v;
+        int was = texts[t].places[i];
+        texts[t].places[i] = (byte) v;
         return was + 1000;
     }
 
@@ -573,6 +564,14 @@ public final class SecondWish {
         return n;
     }
 
+    /** The refusal of a place of a ROW, a TEXT, or 0 if it is there. */
+    private int refusePlace(Line line, int i) {
+        if (line.isMissing()) {
+            return find(NOTHING);
+        }
+        return line.hasPlace(i) ? 0 : find(BEYOND);
+    }
+
     /** The refusal of a ROW that should tell who spoke, or 0 if it does. */
     private int refuseSpeakers(Line line) {
         if (line.isMissing()) {
@@ -827,9 +826,7 @@ public final class SecondWish {
         int spoken = 0;
 
         Day() {
-            Arrays.fill(first, NONE);
-            Arrays.fill(owner, NONE);
-            Arrays.fill(giver, NONE);
+            clear();
         }
 
         void clear() {

@@ -327,6 +327,9 @@ public final class PromiseTests {
         faultIs("t1o" + "w001".repeat(17), 3 + 64);
         faultIs("t2o" + "u01".repeat(6) + " u", 3 + 18 + 1);
         write(s, 1, "t1o");
+        write(s, 1, "t1ox");
+        write(s, 1, "t1o");
+        due("nothing is left of a longer text", s.fault(1), NONE);
         s.put(1, 2, 'o' + 256);
         due("a letter cut to a byte", s.fault(1), NONE);
         s.put(1, 2, -9);
@@ -662,6 +665,7 @@ public final class PromiseTests {
         s.want(0, 0, 5);
         due("a broker alone", s.plays(0, 2, 1), 5);
         rowIs(s, 1, 0, 0);
+        due("one turn is too few", s.plays(0, 1, 1), 0);
         due("three turns, of alike ones the least", s.plays(0, 3, 1), 5);
         rowIs(s, 1, 0, 0, 0);
         due("no turns", s.plays(0, 0, 1), 0);
@@ -987,6 +991,9 @@ public final class PromiseTests {
         asks(s, "none", () -> s.judge(0), 0, NONE);
         s.row(0, 20);
         asks(s, "twenty", () -> s.judge(0), 0, 1);
+        lay(s, 0, 0, -5);
+        s.row(0, 1);
+        asks(s, "nothing is left of a longer row", () -> s.judge(0), 0, NONE);
         SecondWish none = new SecondWish();
         bad(none, "judge(6)", () -> none.judge(6));
         bad(none, "judge(-1)", () -> none.judge(-1));
