@@ -800,6 +800,7 @@ public final class SecondWish {
             if (isOf(x, MISER)) {
                 return 0;
             }
+            // A TEXT may tell oneself, or one that there is not, to hear: that is nobody.
             return (told[x] | allOf(BAKER)) & othersThan(x);
         }
 
@@ -1040,7 +1041,6 @@ public final class SecondWish {
             if (!readThings() || !readPeople() || !readWants() || !readUndoings()) {
                 return place;
             }
-            forgetNobody();
             return place >= size ? NONE : place;
         }
 
@@ -1158,12 +1158,6 @@ public final class SecondWish {
                 skipBlanks();
             }
             return true;
-        }
-
-        private void forgetNobody() {
-            for (int x = 0; x < town.people; x++) {
-                town.told[x] &= town.othersThan(x);
-            }
         }
     }
 

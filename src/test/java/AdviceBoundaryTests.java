@@ -50,7 +50,7 @@ public final class AdviceBoundaryTests {
         Case.town("t1 k w005").row(1, 7, 8, 9).is("plays(0, 0, 1)", 0).rowIs(1).is("plays(0, 1, 1)", 0).rowIs(1, 0)
             .is("plays(0, 2, 1)", 5).rowIs(1, 0, 0).is("plays(0, 5, 1)", 5).rowIs(1, 0, 0, 0, 0, 0)
             .refuses(BAD, "plays(0, 6, 1)", "plays(0, -1, 1)", "plays(0, LEAST, 1)", "plays(0, GREATEST, 1)");
-        Case.town("t1 k w005").says(0, 0).is("plays(0, 0, 1)", 5).rowIs(1);
+        Case.town("t1 k w005").says(0).is("plays(0, 0, 1)", 0).rowIs(1).is("sure(0, 0)", 0).says(0).is("plays(0, 0, 1)", 5).rowIs(1);
 
         Case.test(25, "what is SAID comes to a ROW (anew)");
         Case.town("t1 k w005").is("plays(0, 2, 0)", 5).rowIs(0, 0, 0).is("plays(0, 1, 0)", 0).rowIs(0, 0).row(5, new int[40])
@@ -86,6 +86,12 @@ public final class AdviceBoundaryTests {
     }
 
     private static void playsRefused() {
+        Case.test(25, "the GAIN of who begins, at last.");
+        Case.town("t6 o o w109w119w129w139w149w159").says(0, 10, 1, 11, 2, 12, 3, 13, 4, 14, 5, 15).is("plays(1, 0, 0)", 54)
+            .is("plays(1, 5, 0)", 54).rowIs(0, 10, 0, 10, 0, 10);
+        Case.town("t6 o o o o o o w109w219w329w439w549").says(0, 1, 2, 3, 4).is("plays(1, 5, 0)", 9).rowIs(0, 10, 21, 32, 43, 54);
+        Case.town("t6 o o o o o o w109w219w329w439w549").says(0, 1, 2, 3, 4, 10, 21).is("plays(3, 4, 0)", 9).rowIs(0, 32, 43, 54, 0);
+
         Case.test(25, "the GAIN of who begins, at last. BAD.");
         Case.town("t1 o o w109").row(0, 7).says(0).is("plays(1, 1, 0)", 9).rowIs(0, 10).is("plays(0, 2, 5)", 0)
             .refuses(BAD, "plays(2, 1, 0)", "plays(-1, 1, 0)", "plays(LEAST, 1, 0)", "plays(GREATEST, 1, 0)")
@@ -100,6 +106,10 @@ public final class AdviceBoundaryTests {
         Case.town("t1 k w005").is("sure(0, 0)", 0).is("sure(0, 1)", 0).is("sure(0, 2)", 5).is("sure(0, 5)", 5);
         Case.town("t1 k w005").says(0, 0).is("sure(0, 0)", 5).is("sure(0, 5)", 5).is("count(2)", 2);
         Case.town("t1 k o w005").is("sure(0, 2)", 0).is("sure(0, 3)", 0).says(10).is("sure(0, 1)", 5).is("sure(1, 2)", 0);
+
+        Case.town("t2 o o w005 u10").says(10, 1).is("sure(0, 1)", 5).is("sure(0, 2)", 0);
+        Case.town("t6 o o o o o k w059").is("sure(0, 5)", 0).says(15).is("sure(0, 1)", 9).is("sure(0, 5)", 9);
+        Case.town("t6 o o w109w119w129w139w149w159").says(0, 10, 1, 11, 2, 12, 3, 13, 4, 14, 5, 15).is("sure(1, 5)", 54).is("sure(0, 5)", 0);
 
         Case.test(26, "if all others do what makes it least");
         Case.town("t2 o o w005 u10").says(10, 0, 1).is("sure(0, 0)", 5).is("sure(0, 1)", 5).is("sure(0, 2)", 0);
@@ -149,6 +159,8 @@ public final class AdviceBoundaryTests {
         Case.town("t1 o o w004w105").is("match(0)", 5).rowIs(0, NONE, 0).says(0).is("match(0)", 5).says(10).is("match(0)", 0).rowIs(0, NONE, NONE);
         Case.town("t6 o w009w058").is("match(0)", 9).rowIs(0, 0);
         Case.town("t2 o o w009w018w109").is("match(0)", 17).rowIs(0, 1, 0);
+        Case.town("t2 o o w019w119").is("match(0)", 9).rowIs(0, 0, 1);
+        Case.town("t2 o o o w009w119w219").is("match(0)", 18).text(0, "t2 o   w011").does("town(0)").is("match(0)", 1).rowIs(0, 1);
         Case all = Case.town("t6 o o o o o o");
         for (int place = 0; place < 36; place++) {
             all.does("want(" + place / 6 + ", " + place % 6 + ", 9)");
@@ -187,6 +199,7 @@ public final class AdviceBoundaryTests {
         Case.test(29, "so that nobody else who HEARS that one wants it (bits)");
         Case.town("t1 o12 o o w101w201").is("safe(0, 1)", 0).does("want(2, 0, 0)").is("safe(0, 1)", 1)
             .does("want(2, 0, 1)", "tell(0, 2, 0)").is("safe(0, 1)", 1).does("want(0, 0, 9)").is("safe(0, 1)", 1);
+        Case.town("t1 o o o01 o w001w101w301").is("safe(2, 1)", 0).is("safe(2, 0)", 0).does("want(0, 0, 0)").is("safe(2, 1)", 1).is("safe(2, 0)", 0);
     }
 
     private static void safeRefused() {
@@ -231,7 +244,7 @@ public final class AdviceBoundaryTests {
         Case.fresh().tells("rounds()", 0, 0);
         Case.town("t1 o").tells("rounds()", 0, 1);
         Case.town("t6 o").tells("rounds()", 0, 63);
-        Case.town("t6 o u45u54").tells("rounds()", 1, 15);
+        Case.town("t6 o u45u54").tells("rounds()", 1, 15).text(0, "t6 o").does("town(0)").tells("rounds()", 0, 63);
         Case.town("t6 o u01u12u32u45u53u34").tells("rounds()", 1, 7);
 
         Case.test(31, "rows of unlike THINGS each of which undoes the next one, the last one the first one (told from the least one on)");

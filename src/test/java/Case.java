@@ -54,6 +54,12 @@ final class Case {
         }
     }
 
+    static void number(String name, int value, int want) {
+        if (value != want) {
+            fail(name + " is " + value + ", due is " + want);
+        }
+    }
+
     private static void fail(String what) {
         wrong++;
         System.out.println(test + what);

@@ -6,7 +6,9 @@ import java.util.Random;
 /** Random runs of calls against a plain model that goes through all cases without any short way. */
 public final class ModelTests {
     private static final int BAD = -1, FULL = -2, FINDING = -3, STATE = -4, NONE = -9;
-    private static final int RUNS = 150, CALLS = 512;
+    private static final int RUNS = 500, CALLS = 512;
+    /** What one turn of a run may take: a TOWN of 80 signs, a ROW of 40, another call. */
+    private static final int MOST_A_TURN = 150;
     private static int wrong = 0;
 
     public static void main(String[] args) {
@@ -957,7 +959,7 @@ public final class ModelTests {
         SecondWish s = new SecondWish();
         Model m = new Model();
         int calls = 0;
-        while (calls < CALLS) {
+        while (calls + MOST_A_TURN <= CALLS) {
             if (calls == 0 && run % 5 != 0 || random.nextInt(90) == 0) {
                 calls += settle(s, m, run, random);
             }
@@ -974,8 +976,7 @@ public final class ModelTests {
             if (dear && a[1] > 3 && a[1] < 6 && m.things > 3) {
                 a[1] = 3;
             }
-            compare(s, m, run, call[0], a);
-            calls++;
+            calls += compare(s, m, run, call[0], a);
         }
     }
 
@@ -1030,12 +1031,11 @@ public final class ModelTests {
     private static int settle(SecondWish s, Model m, int run, Random random) {
         String text = randomTown(random);
         int t = random.nextInt(4);
-        compare(s, m, run, "text", new int[] {t, text.length()});
+        int calls = compare(s, m, run, "text", new int[] {t, text.length()});
         for (int i = 0; i < text.length(); i++) {
-            compare(s, m, run, "put", new int[] {t, i, text.charAt(i)});
+            calls += compare(s, m, run, "put", new int[] {t, i, text.charAt(i)});
         }
-        compare(s, m, run, "town", new int[] {t});
-        return text.length() + 2;
+        return calls + compare(s, m, run, "town", new int[] {t});
     }
 
     /** A ROW of PEOPLE who spoke, or of SAYINGS: most of those that are truly so. */
@@ -1055,24 +1055,33 @@ public final class ModelTests {
             }
         }
         int r = random.nextInt(6);
-        compare(s, m, run, "row", new int[] {r, values.size()});
+        int calls = compare(s, m, run, "row", new int[] {r, values.size()});
         for (int i = 0; i < values.size(); i++) {
-            compare(s, m, run, "lay", new int[] {r, i, values.get(i)});
+            calls += compare(s, m, run, "lay", new int[] {r, i, values.get(i)});
         }
-        return values.size() + 1;
+        return calls;
     }
 
-    private static void compare(SecondWish s, Model m, int run, String name, int[] a) {
+    /** Compares a call and what is told behind it: by how many calls. */
+    private static int compare(SecondWish s, Model m, int run, String name, int[] a) {
         long want = m.call(name, a);
         String call = "run " + run + ": " + name + Arrays.toString(a);
         same(call, Called.on(s, name, a), want);
-        same(call + " asked()", s.asked(), m.asked);
-        same(call + " upper()", s.upper(), m.upper);
-        same(call + " lower()", s.lower(), m.lower);
-        same(call + " finding()", s.finding(), m.finding);
-        if (!name.equals("put") && !name.equals("lay")) {
-            same(call + " digest()", s.digest(), m.digest());
+        if (name.equals("put") || name.equals("lay")) {
+            return 1;
         }
+        same(call + " digest()", s.digest(), m.digest());
+        same(call + " asked()", s.asked(), m.asked);
+        if (want == FINDING) {
+            same(call + " finding()", s.finding(), m.finding);
+            return 4;
+        }
+        if (name.equals("odds")) {
+            same(call + " upper()", s.upper(), m.upper);
+            same(call + " lower()", s.lower(), m.lower);
+            return 5;
+        }
+        return 3;
     }
 
     private static void same(String call, long got, long want) {

