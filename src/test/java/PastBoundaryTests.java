@@ -16,6 +16,7 @@ public final class PastBoundaryTests {
         judge();
         judgeRefused();
         judgeSayings();
+        silence();
         odds();
         oddsRefused();
         lots();
@@ -138,6 +139,12 @@ public final class PastBoundaryTests {
             .row(0, 69).finds(UNLIKE, "judge(0)");
     }
 
+    private static void silence() {
+        Case.test(34, "SILENCE by 10 times who and 9 (nothing comes of it; it is none of the SAYINGS done)");
+        Case.town("t1 o o w009w109").is("plays(0, 3, 0)", 9).rowIs(0, 9, 10, 0).tells("judge(0)", 1, 0).is("count(2)", 0)
+            .row(0, 19, 9, 19).tells("judge(0)", 0, 0).refuses(BAD, "say(0, 9)");
+    }
+
     // ---- 35
 
     private static void oddsAre(Case town, String call, long upper, long lower) {
@@ -224,7 +231,7 @@ public final class PastBoundaryTests {
         Case.town("t1 o").is("lots(20, 1)", 0).is("lots(20, 1)", 0).refuses(FULL, "lots(1, 1)", "lots(20, 5)").refuses(BAD, "lots(0, 1)", "lots(21, 1)", "lots(1, 0)")
             .does("undo(39)").is("lots(1, 1)", 0);
 
-        Case.test(36, "BAD; STATE: no PEOPLE;");
+        Case.test(36, "(FULL last.)");
         Case.fresh().refuses(STATE, "lots(1, 1)", "lots(20, 2147483646)").refuses(BAD, "lots(0, 1)", "lots(21, 1)", "lots(1, 0)", "lots(1, GREATEST)");
     }
 }

@@ -134,6 +134,8 @@ public final class TextBoundaryTests {
         Case.test(10, "in WANTS, UNDOINGS one, a THING that there is not");
         right("t1ow001", 1);
         wrong("t1ow101", 4);
+        wrong("t2ow101", 4);
+        wrong("t2ow111", 4);
         right("t1oow101", 2);
         wrong("t1oow201", 5);
         right("t6oooooow559", 6);
