@@ -1,5 +1,3 @@
-import java.util.Arrays;
-
 /** Promises 24 to 31: each sentence that names a boundary case. */
 public final class AdviceBoundaryTests {
     private static final int BAD = Case.BAD, STATE = Case.STATE, NONE = Case.NONE;
@@ -57,14 +55,8 @@ public final class AdviceBoundaryTests {
             .is("plays(0, 2, 5)", 5).rowIs(5, 0, 0).is("count(2)", 0);
 
         Case.test(25, "---- 3 what to say (aside)");
-        Case.town("t1 k o w005").says(sayings(40, 10)).is("count(2)", 40).is("plays(0, 1, 0)", 5).rowIs(0, 0).is("sure(0, 1)", 5)
+        Case.town("t1 k o w005").says(Case.filled(40, 10)).is("count(2)", 40).is("plays(0, 1, 0)", 5).rowIs(0, 0).is("sure(0, 1)", 5)
             .is("fewest(0, 0, 0)", 1).tells("best(0)", 0, 5).is("count(2)", 40).is("count(3)", 0);
-    }
-
-    private static int[] sayings(int n, int saying) {
-        int[] all = new int[n];
-        Arrays.fill(all, saying);
-        return all;
     }
 
     private static void playsTurns() {

@@ -3,6 +3,7 @@ import java.lang.reflect.Method;
 import java.nio.file.Files;
 import java.nio.file.Path;
 import java.util.ArrayList;
+import java.util.Arrays;
 import java.util.HashMap;
 import java.util.List;
 import java.util.Map;
@@ -93,6 +94,12 @@ final class Case {
     }
 
     // ---- objects
+
+    static int[] filled(int n, int v) {
+        int[] values = new int[n];
+        Arrays.fill(values, v);
+        return values;
+    }
 
     static Case fresh() {
         return new Case();

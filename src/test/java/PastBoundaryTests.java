@@ -24,19 +24,13 @@ public final class PastBoundaryTests {
         Case.end(32, 36);
     }
 
-    private static int[] filled(int n, int v) {
-        int[] values = new int[n];
-        Arrays.fill(values, v);
-        return values;
-    }
-
     // ---- 32
 
     private static void said() {
         Case.test(32, "PEOPLE who spoke one behind the other, from nothing SAID on (a ROW; 6 at most; of THINGS each SAID one)");
         Case.town("t1 o o").does("row(0, 0)").is("said(0, 1)", 1).rowIs(1).says(0).is("said(0, 1)", 0).rowIs(1)
             .row(0, 0).is("said(0, 1)", 1).rowIs(1, 0).is("count(2)", 1);
-        Case.town("t6 o").says(0, 1, 2, 3, 4).row(0, filled(6, 0)).is("said(0, 1)", 1800).rowIs(1, 0, 0, 1, 2, 3, 4)
+        Case.town("t6 o").says(0, 1, 2, 3, 4).row(0, Case.filled(6, 0)).is("said(0, 1)", 1800).rowIs(1, 0, 0, 1, 2, 3, 4)
             .says(5).is("said(0, 1)", 720).rowIs(1, 0, 1, 2, 3, 4, 5);
         Case.town(SIX).says(0, 11, 22, 33, 44, 55).row(0, 0, 1, 2, 3, 4, 5).is("said(0, 1)", 1).rowIs(1, 0, 1, 2, 3, 4, 5);
 
@@ -44,7 +38,7 @@ public final class PastBoundaryTests {
         Case.town("t1 o o l").says(0, 20).row(0, 0, 2).is("said(0, 1)", 1).row(0, 0, 1).is("said(0, 1)", 0).row(0, 2, 0).is("said(0, 1)", 0);
         Case.town("t1 o o").says(0).row(0, 0, 9).does("row(0, 1)").is("said(0, 1)", 1).is("firsts(0, 0)", 1);
         Case.town("t2 o o").says(0).row(0, 0).is("said(0, 1)", 1).row(0, 1).is("said(0, 1)", 0).row(0, 0, 1).is("said(0, 1)", 0);
-        Case.town("t1 o o").says(0, 10).row(0, 0).is("said(0, 1)", 0).row(0, 0, 0, 1, 1, 0, 0).is("said(0, 1)", 1).rowIs(1, filled(6, 0));
+        Case.town("t1 o o").says(0, 10).row(0, 0).is("said(0, 1)", 0).row(0, 0, 0, 1, 1, 0, 0).is("said(0, 1)", 1).rowIs(1, Case.filled(6, 0));
     }
 
     private static void saidRow() {
@@ -57,13 +51,13 @@ public final class PastBoundaryTests {
     private static void saidRefused() {
         Case.test(32, "BAD; STATE: no PEOPLE; NOTHING; SIZE: more than 6; UNLIKE: none of PEOPLE. (In this order.)");
         Case.fresh().refuses(BAD, "said(-1, 0)", "said(6, 0)", "said(0, -1)", "said(0, 6)", "said(LEAST, 0)", "said(0, GREATEST)")
-            .refuses(STATE, "said(0, 1)", "said(5, 5)").row(0, filled(7, 9)).refuses(STATE, "said(0, 1)").row(0).refuses(STATE, "said(0, 1)");
+            .refuses(STATE, "said(0, 1)", "said(5, 5)").row(0, Case.filled(7, 9)).refuses(STATE, "said(0, 1)").row(0).refuses(STATE, "said(0, 1)");
         Case.town("t1 o").refuses(BAD, "said(-1, 0)", "said(6, 0)", "said(0, -1)", "said(0, 6)").finds(NOTHING, "said(0, 1)", "said(5, 0)");
-        Case.town("t1 o").row(0, filled(7, 9)).row(1, 4).refuses(BAD, "said(0, 6)").finds(SIZE, "said(0, 1)").finds(NOTHING, "said(2, 1)");
+        Case.town("t1 o").row(0, Case.filled(7, 9)).row(1, 4).refuses(BAD, "said(0, 6)").finds(SIZE, "said(0, 1)").finds(NOTHING, "said(2, 1)");
 
         Case.test(32, "SIZE: more than 6");
-        Case.town("t1 o").says(0).row(0, filled(7, 0)).finds(SIZE, "said(0, 1)").row(0, filled(40, 0)).finds(SIZE, "said(0, 1)")
-            .row(0, filled(6, 0)).is("said(0, 1)", 1);
+        Case.town("t1 o").says(0).row(0, Case.filled(7, 0)).finds(SIZE, "said(0, 1)").row(0, Case.filled(40, 0)).finds(SIZE, "said(0, 1)")
+            .row(0, Case.filled(6, 0)).is("said(0, 1)", 1);
 
         Case.test(32, "UNLIKE: none of PEOPLE");
         for (int one : new int[] {2, -1, 6, 10, LEAST, GREATEST}) {
@@ -94,9 +88,9 @@ public final class PastBoundaryTests {
 
         Case.test(33, "BAD; STATE (without PEOPLE, whatever the THING); NOTHING; SIZE; UNLIKE.");
         Case.fresh().refuses(STATE, "firsts(0, 0)", "firsts(-1, 0)", "firsts(6, 5)", "firsts(LEAST, 0)", "firsts(GREATEST, 0)")
-            .row(0, filled(7, 9)).refuses(STATE, "firsts(0, 0)", "firsts(9, 0)");
-        Case.town("t1 o").row(0, filled(7, 9)).refuses(BAD, "firsts(1, 0)", "firsts(-1, 0)", "firsts(LEAST, 0)", "firsts(GREATEST, 0)")
-            .finds(SIZE, "firsts(0, 0)").row(0, filled(7, 0)).finds(SIZE, "firsts(0, 0)").row(0, filled(6, 0)).is("firsts(0, 0)", 1);
+            .row(0, Case.filled(7, 9)).refuses(STATE, "firsts(0, 0)", "firsts(9, 0)");
+        Case.town("t1 o").row(0, Case.filled(7, 9)).refuses(BAD, "firsts(1, 0)", "firsts(-1, 0)", "firsts(LEAST, 0)", "firsts(GREATEST, 0)")
+            .finds(SIZE, "firsts(0, 0)").row(0, Case.filled(7, 0)).finds(SIZE, "firsts(0, 0)").row(0, Case.filled(6, 0)).is("firsts(0, 0)", 1);
         Case.town("t6 o o").row(0, 1).is("firsts(5, 0)", 2).refuses(BAD, "firsts(6, 0)", "firsts(6, 1)");
         for (int one : new int[] {2, -1, 6, LEAST, GREATEST}) {
             Case.town("t1 o o").row(0, 0, one).finds(UNLIKE, "firsts(0, 0)").row(0, 0, 0).is("firsts(0, 0)", 1);
@@ -110,7 +104,7 @@ public final class PastBoundaryTests {
         Case.town("t2 o l k").does("row(0, 0)").tells("judge(0)", 0, NONE).row(0, 1, 11, 20, 20).tells("judge(0)", 2, NONE).is("count(2)", 0)
             .says(1).row(0, 11).tells("judge(0)", 1, NONE).is("count(2)", 1).is("count(3)", 0);
         Case.town(SIX).row(0, 0, 10, 1, 11, 2, 12, 3, 13, 4, 14, 5, 55).tells("judge(0)", 6, NONE);
-        Case.town("t1 o o").says(filled(40, 0)).row(0, 10).tells("judge(0)", 1, NONE);
+        Case.town("t1 o o").says(Case.filled(40, 0)).row(0, 10).tells("judge(0)", 1, NONE);
 
         Case.test(34, "the first by which nothing comes (SILENCE, too; NONE: none is so) by asked()");
         Case.town("t1 o o").row(0, 0, 10, 0).tells("judge(0)", 1, 2).row(0, 0, 0, 10).tells("judge(0)", 1, 1).row(0, 0, 10).tells("judge(0)", 1, NONE)
@@ -121,12 +115,12 @@ public final class PastBoundaryTests {
     private static void judgeRefused() {
         Case.test(34, "BAD; STATE: no PEOPLE; NOTHING; SIZE: more than 20; UNLIKE: no SAYING, nor SILENCE. (In this order.)");
         Case.fresh().refuses(BAD, "judge(-1)", "judge(6)", "judge(LEAST)", "judge(GREATEST)").refuses(STATE, "judge(0)", "judge(5)")
-            .row(0, filled(21, -1)).refuses(STATE, "judge(0)");
-        Case.town("t1 o").refuses(BAD, "judge(-1)", "judge(6)").finds(NOTHING, "judge(0)", "judge(5)").row(0, filled(21, -1)).finds(SIZE, "judge(0)");
+            .row(0, Case.filled(21, -1)).refuses(STATE, "judge(0)");
+        Case.town("t1 o").refuses(BAD, "judge(-1)", "judge(6)").finds(NOTHING, "judge(0)", "judge(5)").row(0, Case.filled(21, -1)).finds(SIZE, "judge(0)");
 
         Case.test(34, "SIZE: more than 20");
-        Case.town("t1 o").row(0, filled(21, 0)).finds(SIZE, "judge(0)").row(0, filled(40, 9)).finds(SIZE, "judge(0)")
-            .row(0, filled(20, 0)).tells("judge(0)", 0, 1).row(0, filled(20, 9)).tells("judge(0)", 0, 0);
+        Case.town("t1 o").row(0, Case.filled(21, 0)).finds(SIZE, "judge(0)").row(0, Case.filled(40, 9)).finds(SIZE, "judge(0)")
+            .row(0, Case.filled(20, 0)).tells("judge(0)", 0, 1).row(0, Case.filled(20, 9)).tells("judge(0)", 0, 0);
     }
 
     private static void judgeSayings() {
@@ -180,7 +174,7 @@ public final class PastBoundaryTests {
         Case.test(35, "chances that a THING is GRANTED to one at last");
         Case undone = Case.town("t2 o o u10").says(0, 10, 1, 11);
         oddsAre(undone, "odds(1, 0, 0)", 1, 1);
-        oddsAre(Case.town("t1 o o").says(filled(40, 0)), "odds(1, 0, 1)", 1, 2);
+        oddsAre(Case.town("t1 o o").says(Case.filled(40, 0)), "odds(1, 0, 1)", 1, 2);
     }
 
     private static void oddsRefused() {
@@ -227,7 +221,7 @@ public final class PastBoundaryTests {
 
     private static void lotsRefused() {
         Case.test(36, "FULL: with n more there would be more than 40.");
-        Case.town("t1 o").says(filled(21, 0)).refuses(FULL, "lots(20, 1)").is("lots(19, 1)", 0).is("count(2)", 40).refuses(FULL, "lots(1, 1)");
+        Case.town("t1 o").says(Case.filled(21, 0)).refuses(FULL, "lots(20, 1)").is("lots(19, 1)", 0).is("count(2)", 40).refuses(FULL, "lots(1, 1)");
         Case.town("t1 o").is("lots(20, 1)", 0).is("lots(20, 1)", 0).refuses(FULL, "lots(1, 1)", "lots(20, 5)").refuses(BAD, "lots(0, 1)", "lots(21, 1)", "lots(1, 0)")
             .does("undo(39)").is("lots(1, 1)", 0);
 

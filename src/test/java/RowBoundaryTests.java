@@ -1,5 +1,3 @@
-import java.util.Arrays;
-
 /** Promises 1 to 9: each sentence that names a boundary case. */
 public final class RowBoundaryTests {
     private static final int BAD = Case.BAD;
@@ -19,12 +17,6 @@ public final class RowBoundaryTests {
         put();
         putRefused();
         Case.end(1, 9);
-    }
-
-    private static int[] filled(int n, int v) {
-        int[] values = new int[n];
-        Arrays.fill(values, v);
-        return values;
     }
 
     private static void newObject() {
@@ -54,7 +46,7 @@ public final class RowBoundaryTests {
 
         Case.test(2, "A ROW is there with n ints 0: n.");
         Case.fresh().row(1, 7, 8, 9).is("row(1, 2)", 2).rowIs(1, 0, 0).is("row(1, 3)", 3).rowIs(1, 0, 0, 0);
-        Case.fresh().row(1, filled(40, -1)).is("row(1, 40)", 40).rowIs(1, new int[40]);
+        Case.fresh().row(1, Case.filled(40, -1)).is("row(1, 40)", 40).rowIs(1, new int[40]);
         Case.fresh().row(1, 7).does("tear(1)").is("row(1, 1)", 1).rowIs(1, 0);
 
         Case.test(2, "BAD: also n above 40");
@@ -102,7 +94,7 @@ public final class RowBoundaryTests {
         Case.fresh().row(1, 4, 5, 6).tells("at(1, 0)", 1, 4).tells("at(1, 2)", 1, 6)
             .finds(BEYOND, "at(1, -1)", "at(1, 3)", "at(1, LEAST)", "at(1, GREATEST)");
         Case.fresh().does("row(1, 0)").finds(BEYOND, "at(1, 0)", "at(1, -1)");
-        Case.fresh().row(1, filled(40, 3)).tells("at(1, 39)", 1, 3).finds(BEYOND, "at(1, 40)");
+        Case.fresh().row(1, Case.filled(40, 3)).tells("at(1, 39)", 1, 3).finds(BEYOND, "at(1, 40)");
     }
 
     // ---- 5
@@ -110,7 +102,7 @@ public final class RowBoundaryTests {
     private static void tear() {
         Case.test(5, "A ROW is missing: 1.");
         Case.fresh().does("row(0, 0)").is("tear(0)", 1).rowIsMissing(0).is("count(6)", 0);
-        Case.fresh().row(5, filled(40, 3)).row(4, 9).is("tear(5)", 1).rowIsMissing(5).rowIs(4, 9).is("count(6)", 1);
+        Case.fresh().row(5, Case.filled(40, 3)).row(4, 9).is("tear(5)", 1).rowIsMissing(5).rowIs(4, 9).is("count(6)", 1);
 
         Case.test(5, "BAD; NOTHING.");
         Case.fresh().does("row(0, 1)", "row(5, 1)").refuses(BAD, "tear(-1)", "tear(6)", "tear(LEAST)", "tear(GREATEST)")
@@ -125,7 +117,7 @@ public final class RowBoundaryTests {
         Case.fresh().row(0, 1, 2, 3).row(5, 7, 8, 9).is("copy(0, 1, 5, 0, 2)", 1).rowIs(5, 2, 3, 9).rowIs(0, 1, 2, 3);
         Case.fresh().row(0, 1, 2, 3).is("copy(0, 0, 0, 2, 1)", 1).rowIs(0, 1, 2, 1);
         Case.fresh().row(0, 1, 2, 3).is("copy(0, 0, 0, 0, 3)", 1).rowIs(0, 1, 2, 3);
-        Case.fresh().row(0, filled(40, 6)).does("row(1, 40)").is("copy(0, 0, 1, 0, 40)", 1).rowIs(1, filled(40, 6));
+        Case.fresh().row(0, Case.filled(40, 6)).does("row(1, 40)").is("copy(0, 0, 1, 0, 40)", 1).rowIs(1, Case.filled(40, 6));
 
         Case.test(6, "as if taken ahead: 1.");
         Case.fresh().row(0, 1, 2, 3, 4, 5).is("copy(0, 0, 0, 1, 4)", 1).rowIs(0, 1, 1, 2, 3, 4);
@@ -166,7 +158,7 @@ public final class RowBoundaryTests {
         Case.fresh().row(0, 1, 2).tells("mean(0)", 1, 1).row(0, 2, 2).tells("mean(0)", 1, 2);
         Case.fresh().row(0, -1, -2).tells("mean(0)", 1, -1).row(0, -1, 0).tells("mean(0)", 1, 0);
         Case.fresh().row(0, LEAST).tells("mean(0)", 1, LEAST).row(0, GREATEST, LEAST).tells("mean(0)", 1, 0);
-        Case.fresh().row(0, filled(40, GREATEST)).tells("mean(0)", 1, GREATEST).row(0, filled(40, LEAST)).tells("mean(0)", 1, LEAST);
+        Case.fresh().row(0, Case.filled(40, GREATEST)).tells("mean(0)", 1, GREATEST).row(0, Case.filled(40, LEAST)).tells("mean(0)", 1, LEAST);
 
         Case.test(7, "BAD; NOTHING; NOUGHT.");
         Case.fresh().row(0, 5).row(5, 6).refuses(BAD, "mean(-1)", "mean(6)", "mean(LEAST)", "mean(GREATEST)")

@@ -24,12 +24,6 @@ public final class ToldBoundaryTests {
         Case.end(37, 43);
     }
 
-    private static int[] filled(int n, int v) {
-        int[] values = new int[n];
-        Arrays.fill(values, v);
-        return values;
-    }
-
     // ---- what is said of all calls
 
     private static void constants() {
@@ -45,7 +39,7 @@ public final class ToldBoundaryTests {
     private static void order() {
         Case.test(0, "Refused is, the first of these that fits, in this order: BAD -1 (a number that is none, or not as told), FULL -2, "
             + "STATE -4 (not now), SPENT -6 (more than told), FINDING -3 (finding() tells which), unless a call says so otherwise.");
-        Case.town("t1 o").says(filled(40, 0)).refuses(BAD, "say(1, 0)", "say(0, 1)", "lots(0, 1)").refuses(FULL, "say(0, 0)", "lots(1, 1)");
+        Case.town("t1 o").says(Case.filled(40, 0)).refuses(BAD, "say(1, 0)", "say(0, 1)", "lots(0, 1)").refuses(FULL, "say(0, 0)", "lots(1, 1)");
         Case.fresh().refuses(BAD, "keep(3)", "match(6)", "judge(6)", "said(6, 0)", "firsts(0, 6)", "lots(1, 0)")
             .refuses(STATE, "keep(0)", "match(0)", "judge(0)", "said(0, 1)", "firsts(0, 0)", "lots(1, 1)");
         Case.fresh().refuses(BAD, "row(6, -1)", "text(4, -1)", "copy(6, 0, 0, 0, -1)", "on(3)").finds(SIZE, "row(5, -1)", "text(3, -1)", "copy(5, 0, 0, 0, -1)");
@@ -135,7 +129,7 @@ public final class ToldBoundaryTests {
 
     private static void countMost() {
         Case.test(40, "0 PEOPLE, 1 THINGS, 2 SAYINGS");
-        Case.town(SIX).is("count(0)", 6).is("count(1)", 6).is("count(2)", 0).says(filled(40, 0)).is("count(2)", 40);
+        Case.town(SIX).is("count(0)", 6).is("count(1)", 6).is("count(2)", 0).says(Case.filled(40, 0)).is("count(2)", 40);
 
         Case.test(40, "3 THINGS GRANTED, 4 THINGS with a FIRST, not GRANTED");
         Case.town(SIX).says(0, 1, 2, 3, 4, 5).is("count(4)", 6).is("count(3)", 0).says(10, 11, 12, 13, 14, 15).is("count(4)", 0).is("count(3)", 6);
@@ -185,18 +179,18 @@ public final class ToldBoundaryTests {
     private static void digest() {
         Case.test(43, "of each kept TOWN how many SAYINGS (-1: missing); of each ROW its size (-1: missing) and places, of each TEXT likewise");
         int[] counts = new int[9];
-        Case.fresh().is("digest()", mixed(joined(counts, filled(13, -1)))).is("digest()", mixed(joined(counts, filled(13, -1))));
+        Case.fresh().is("digest()", mixed(joined(counts, Case.filled(13, -1)))).is("digest()", mixed(joined(counts, Case.filled(13, -1))));
         counts[6] = 1;
-        Case.fresh().does("row(0, 0)").is("digest()", mixed(joined(counts, filled(3, -1), new int[] {0}, filled(9, -1))));
-        Case.fresh().does("row(5, 40)").is("digest()", mixed(joined(counts, filled(8, -1), new int[] {40}, new int[40], filled(4, -1))));
+        Case.fresh().does("row(0, 0)").is("digest()", mixed(joined(counts, Case.filled(3, -1), new int[] {0}, Case.filled(9, -1))));
+        Case.fresh().does("row(5, 40)").is("digest()", mixed(joined(counts, Case.filled(8, -1), new int[] {40}, new int[40], Case.filled(4, -1))));
     }
 
     private static void digestOfTown() {
         Case.test(43, "of each one one() 0 to 4, the WORTH of each THING; of each THING thing() 0 to 3; of each SAYING 10 times who and the THING");
         int[] text = "t2o1kw015u10".chars().toArray();
-        int[] rest = joined(filled(6, -1), new int[] {text.length}, text, filled(3, -1));
+        int[] rest = joined(Case.filled(6, -1), new int[] {text.length}, text, Case.filled(3, -1));
         Case.town("t2o1kw015u10").is("digest()", mixed(joined(new int[] {2, 2, 0, 0, 0, 1, 0, 1, 0},
-            new int[] {0, 2, 0, 0, 0, 0, 5, 5, 0, 0, 0, 0, 0, 0}, new int[] {NONE, NONE, 0, 0, NONE, NONE, 1, 0}, filled(3, -1), rest)));
+            new int[] {0, 2, 0, 0, 0, 0, 5, 5, 0, 0, 0, 0, 0, 0}, new int[] {NONE, NONE, 0, 0, NONE, NONE, 1, 0}, Case.filled(3, -1), rest)));
         Case.town("t2o1kw015u10").says(0, 10, 11, 1).does("keep(1)").is("digest()", mixed(joined(new int[] {2, 2, 4, 2, 0, 1, 0, 1, 1},
             new int[] {0, 2, 0, 2, 5, 0, 5, 5, 0, 1, 1, 0, 0, 0}, new int[] {0, 1, 0, 0, 1, 0, 1, 1}, new int[] {0, 10, 11, 1, -1, 4, -1}, rest)));
     }
@@ -204,8 +198,8 @@ public final class ToldBoundaryTests {
     private static void digestOfLines() {
         Case.test(43, "of each ROW its size (-1: missing) and places, of each TEXT likewise");
         Case.fresh().row(1, Case.LEAST, Case.GREATEST, -1).text(0, "" + (char) 127 + (char) 128 + (char) 255).does("text(3, 0)")
-            .is("digest()", mixed(joined(new int[] {0, 0, 0, 0, 0, 0, 1, 2, 0}, filled(4, -1), new int[] {3, Case.LEAST, Case.GREATEST, -1}, filled(4, -1),
-                new int[] {3, 127, -128, -1}, filled(2, -1), new int[] {0})));
+            .is("digest()", mixed(joined(new int[] {0, 0, 0, 0, 0, 0, 1, 2, 0}, Case.filled(4, -1), new int[] {3, Case.LEAST, Case.GREATEST, -1}, Case.filled(4, -1),
+                new int[] {3, 127, -128, -1}, Case.filled(2, -1), new int[] {0})));
 
         Case.test(43, "h = 17; then h = 31 h + v for each v: count() 0 to 8");
         Case.fresh().does("row(0, 1)", "lay(0, 0, 5)", "at(0, 0)", "digest()").is("asked()", 5).does("digest()").is("finding()", 0).is("count(6)", 1);

@@ -25,13 +25,6 @@ public final class TownBoundaryTests {
         Case.end(12, 23);
     }
 
-    /** The same SAYING 40 times. */
-    private static int[] forty(int saying) {
-        int[] sayings = new int[40];
-        java.util.Arrays.fill(sayings, saying);
-        return sayings;
-    }
-
     /** All six THINGS SAID by one, then by another one each. */
     private static int[] allSaidBy(int x, int y) {
         int[] sayings = new int[12];
@@ -123,8 +116,8 @@ public final class TownBoundaryTests {
         Case.town("t6 m k").says(allFirstBy(1)).is("mark(1, 1)", 6);
 
         Case.test(14, "a CHILD (LOVER, too) how many SAYINGS that one did");
-        Case.town("t1 c l").is("mark(0, 2)", 0).says(forty(0)).is("mark(0, 2)", 40).is("mark(1, 2)", 0).does("undo(1)").is("mark(0, 2)", 1);
-        Case.town("t1 c l").says(forty(10)).is("mark(1, 2)", 40).is("mark(0, 2)", 0);
+        Case.town("t1 c l").is("mark(0, 2)", 0).says(Case.filled(40, 0)).is("mark(0, 2)", 40).is("mark(1, 2)", 0).does("undo(1)").is("mark(0, 2)", 1);
+        Case.town("t1 c l").says(Case.filled(40, 10)).is("mark(1, 2)", 40).is("mark(0, 2)", 0);
 
         Case.test(14, "a BAKER how many others that one HEARS");
         Case.town("t1 b m m k").is("mark(0, 3)", 0);
@@ -198,7 +191,7 @@ public final class TownBoundaryTests {
 
     private static void say() {
         Case.test(17, "BAD; FULL: 40 SAYINGS.");
-        Case.town("t1 o k").says(forty(0)).is("count(2)", 40).refuses(FULL, "say(0, 0)", "say(1, 0)").refuses(BAD, "say(2, 0)", "say(0, 1)")
+        Case.town("t1 o k").says(Case.filled(40, 0)).is("count(2)", 40).refuses(FULL, "say(0, 0)", "say(1, 0)").refuses(BAD, "say(2, 0)", "say(0, 1)")
             .does("undo(39)").tells("say(1, 0)", 1, 1).refuses(FULL, "say(0, 0)");
         Case.town("t1 o").tells("say(0, 0)", 0, NONE).refuses(BAD, "say(1, 0)", "say(-1, 0)", "say(0, 1)", "say(0, -1)")
             .refuses(BAD, "say(LEAST, 0)", "say(0, LEAST)", "say(GREATEST, 0)", "say(0, GREATEST)");
@@ -214,8 +207,8 @@ public final class TownBoundaryTests {
             .is("undo(3)", 1).tells("thing(1, 1)", 1, NONE).tells("thing(1, 0)", 1, 0).is("mark(2, 4)", 0).is("count(3)", 1)
             .is("undo(1)", 2).tells("thing(1, 0)", 1, NONE).tells("one(1, 2)", 1, 1).tells("thing(0, 1)", 1, NONE).is("count(4)", 1)
             .is("undo(0)", 1).tells("one(1, 2)", 1, 0).tells("thing(0, 0)", 1, NONE).is("count(2)", 0).is("undo(0)", 0);
-        Case.town("t1 o o").says(forty(0)).is("undo(40)", 0).is("undo(39)", 1).is("undo(0)", 39).is("count(4)", 0);
-        Case.town("t1 o o").says(forty(0)).is("undo(0)", 40).tells("say(1, 0)", 0, NONE).tells("thing(0, 0)", 1, 1);
+        Case.town("t1 o o").says(Case.filled(40, 0)).is("undo(40)", 0).is("undo(39)", 1).is("undo(0)", 39).is("count(4)", 0);
+        Case.town("t1 o o").says(Case.filled(40, 0)).is("undo(0)", 40).tells("say(1, 0)", 0, NONE).tells("thing(0, 0)", 1, 1);
 
         Case.test(18, "HEARD OF as ahead of it");
         Case.town("t2 o1 o o").says(0).does("tell(0, 1, 0)", "tell(0, 2, 1)").says(1).tells("one(2, 2)", 1, 2)
@@ -230,7 +223,7 @@ public final class TownBoundaryTests {
         Case.test(18, "how many. BAD.");
         Case.fresh().is("undo(0)", 0).refuses(BAD, "undo(-1)", "undo(1)", "undo(LEAST)", "undo(GREATEST)");
         Case.town("t2 c l").says(0, 10, 1).refuses(BAD, "undo(4)", "undo(-1)", "undo(40)").is("undo(3)", 0).is("undo(0)", 3);
-        Case.town("t1 o").says(forty(0)).refuses(BAD, "undo(41)").is("undo(40)", 0);
+        Case.town("t1 o").says(Case.filled(40, 0)).refuses(BAD, "undo(41)").is("undo(40)", 0);
     }
 
     // ---- 19, 20
@@ -284,7 +277,7 @@ public final class TownBoundaryTests {
         Case.town("t1 o o").is("keep(0)", 0).is("count(8)", 1).says(0).is("keep(2)", 1).is("count(8)", 2).is("keep(1)", 1).is("count(8)", 3)
             .refuses(BAD, "keep(-1)", "keep(3)", "keep(LEAST)", "keep(GREATEST)").is("on(0)", 0).is("on(2)", 1);
         Case.town("t1 o o").is("keep(1)", 0).says(0, 10).is("keep(1)", 2).is("count(8)", 1).does("undo(0)").is("on(1)", 2);
-        Case.town("t1 o o").says(forty(0)).is("keep(0)", 40).does("undo(0)").is("on(0)", 40).refuses(FULL, "say(0, 0)").is("undo(0)", 40);
+        Case.town("t1 o o").says(Case.filled(40, 0)).is("keep(0)", 40).does("undo(0)").is("on(0)", 40).refuses(FULL, "say(0, 0)").is("undo(0)", 40);
 
         Case.test(22, "BAD; STATE: no PEOPLE.");
         Case.fresh().refuses(STATE, "keep(0)", "keep(2)").refuses(BAD, "keep(3)", "keep(-1)").is("count(8)", 0)
