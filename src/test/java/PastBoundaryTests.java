@@ -198,6 +198,11 @@ public final class PastBoundaryTests {
         Case.town(SIX).is("lots(1, 2147483646)", 0).tells("thing(3, 0)", 1, 0).is("count(4)", 1);
         Case.town(SIX).refuses(BAD, "lots(1, 0)", "lots(1, -1)", "lots(1, GREATEST)", "lots(1, LEAST)");
 
+        Case.test(36, "it modulo how many PEOPLE there are is who; it by 64, cut, modulo how many THINGS the THING: how many WISHES were GRANTED.");
+        Case.town("t1 o").is("lots(20, 5)", 0).tells("thing(0, 0)", 1, 0);
+        // 48271 modulo 5 is 1; 48271 by 64, cut, is 754, modulo 4 it is 2.
+        Case.town("t4 o o o o o").is("lots(1, 1)", 0).tells("thing(2, 0)", 1, 1).says(2).is("count(3)", 1);
+
         Case.test(36, "a number comes from the one ahead by 48271 times it modulo 2147483647");
         lotsAre(1);
         lotsAre(77);
@@ -226,6 +231,9 @@ public final class PastBoundaryTests {
             .does("undo(39)").is("lots(1, 1)", 0);
 
         Case.test(36, "(FULL last.)");
+        Case.town("t1 o").says(Case.filled(40, 0)).refuses(BAD, "lots(21, 1)", "lots(1, 0)").refuses(FULL, "lots(1, 2147483646)");
+
+        Case.test(36, "BAD; STATE: no PEOPLE;");
         Case.fresh().refuses(STATE, "lots(1, 1)", "lots(20, 2147483646)").refuses(BAD, "lots(0, 1)", "lots(21, 1)", "lots(1, 0)", "lots(1, GREATEST)");
     }
 }

@@ -190,6 +190,10 @@ public final class TownBoundaryTests {
     }
 
     private static void say() {
+        Case.test(17, "1, if it is GRANTED by that, else 0; to whom it is GRANTED then by asked() (NONE).");
+        Case.town("t6 o o o o o l").tells("say(5, 5)", 0, NONE).tells("say(5, 5)", 0, NONE).tells("say(4, 5)", 1, 4).tells("say(0, 5)", 0, 4)
+            .tells("say(0, 0)", 0, NONE).tells("say(5, 0)", 1, 0).tells("say(5, 0)", 0, 0);
+
         Case.test(17, "BAD; FULL: 40 SAYINGS.");
         Case.town("t1 o k").says(Case.filled(40, 0)).is("count(2)", 40).refuses(FULL, "say(0, 0)", "say(1, 0)").refuses(BAD, "say(2, 0)", "say(0, 1)")
             .does("undo(39)").tells("say(1, 0)", 1, 1).refuses(FULL, "say(0, 0)");
